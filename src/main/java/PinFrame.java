@@ -282,7 +282,7 @@ public final class PinFrame {
     }
 
     public int worst(int bar) {
-        if (!frame.isOn(bar) || !ride.stands(0) || !tells(frame.on)) {
+        if (!frame.isOn(bar) || !ride.stands(0) || !bears(frame.on, ride.loadsAt(0))) {
             return NONE;
         }
         int worst = NONE;
@@ -356,7 +356,7 @@ public final class PinFrame {
         return (set >> number & 1) == 1;
     }
 
-    /** A quotient of which it is known that nothing remains and that the divisor is not 0. */
+    /** No caller has a divisor of 0; the test keeps the machine from throwing all the same. */
     private static long quotient(long a, long b) {
         return b == 0 ? 0 : a / b;
     }
@@ -384,21 +384,14 @@ public final class PinFrame {
         }
     }
 
-    /** Whether the frame of these BARS has PULLS that are told; they can be borne then. */
-    private boolean tells(int bars) {
+    /** Whether the frame of these BARS has PULLS that are told; those by the loads stand ready then. */
+    private boolean bears(int bars, int[] loads) {
         balance.settle(bars);
         int kind = balance.kindNumber();
         if (kind == LOOSE || kind == MANY_SPARES) {
             return false;
         }
         pulls.prepare();
-        return true;
-    }
-
-    private boolean bears(int bars, int[] loads) {
-        if (!tells(bars)) {
-            return false;
-        }
         pulls.bear(loads);
         return true;
     }
@@ -458,19 +451,21 @@ public final class PinFrame {
         }
 
         boolean hasPinAt(int x, int y) {
-            boolean found = false;
             for (int pin = 0; pin < pins; pin++) {
-                found |= spot[2 * pin] == x && spot[2 * pin + 1] == y;
+                if (spot[2 * pin] == x && spot[2 * pin + 1] == y) {
+                    return true;
+                }
             }
-            return found;
+            return false;
         }
 
         boolean hasBar(int a, int b) {
-            boolean found = false;
             for (int bar = 0; bar < bars; bar++) {
-                found |= one[bar] == a && other[bar] == b || one[bar] == b && other[bar] == a;
+                if (one[bar] == a && other[bar] == b || one[bar] == b && other[bar] == a) {
+                    return true;
+                }
             }
-            return found;
+            return false;
         }
 
         void put(int pin, int x, int y) {
@@ -520,12 +515,13 @@ public final class PinFrame {
         final int[] loads = new int[SLOTS];
 
         int addPin(int pin) {
-            boolean there = pins >= MOST_PINS;
-            for (int i = 0; i < pins; i++) {
-                there |= pinAt[i] == pin;
-            }
-            if (there) {
+            if (pins >= MOST_PINS) {
                 return NONE;
+            }
+            for (int i = 0; i < pins; i++) {
+                if (pinAt[i] == pin) {
+                    return NONE;
+                }
             }
             pinAt[pins] = pin;
             pins++;
@@ -648,11 +644,12 @@ public final class PinFrame {
         }
 
         private boolean meetsSpares(int row) {
-            boolean meets = false;
             for (int bar = 0; bar < frame.bars; bar++) {
-                meets |= has(spare, bar) && rows[row][bar] != 0;
+                if (has(spare, bar) && rows[row][bar] != 0) {
+                    return true;
+                }
             }
-            return meets;
+            return false;
         }
 
         private void findFree() {
@@ -701,19 +698,16 @@ public final class PinFrame {
         private void clearColumn(int bar, int by) {
             long pivot = rows[by][bar];
             for (int row = 0; row < free; row++) {
-                if (row != by) {
-                    clearRow(row, bar, by, pivot);
+                if (row == by) {
+                    continue;
+                }
+                long factor = rows[row][bar];
+                for (int column = 0; column < frame.bars + free; column++) {
+                    long cleared = pivot * rows[row][column] - factor * rows[by][column];
+                    rows[row][column] = quotient(cleared, scale);
                 }
             }
             scale = pivot;
-        }
-
-        private void clearRow(int row, int bar, int by, long pivot) {
-            long factor = rows[row][bar];
-            for (int column = 0; column < frame.bars + free; column++) {
-                long cleared = pivot * rows[row][column] - factor * rows[by][column];
-                rows[row][column] = quotient(cleared, scale);
-            }
         }
     }
 
@@ -960,11 +954,12 @@ public final class PinFrame {
         }
 
         private boolean isHeld(int set) {
-            boolean held = false;
             for (int slot = 0; slot < 2 * frame.pins; slot++) {
-                held |= has(set, slot / 2) && frame.held[slot];
+                if (has(set, slot / 2) && frame.held[slot]) {
+                    return true;
+                }
             }
-            return held;
+            return false;
         }
 
         private void findBars(int set) {
