@@ -1,17 +1,14 @@
-import java.util.NoSuchElementException;
-import java.util.function.LongSupplier;
-
 /** Each promise by hand: ordinary inputs, the edges that the document names, wrong inputs. */
-public final class PromiseTest {
+public final class PromiseTest extends Answers {
     private static final int NONE = PinFrame.NONE;
-    private static final int FAR = Integer.MAX_VALUE;
-    private static final int DEEP = Integer.MIN_VALUE;
-
-    private static int promise;
-    private static int asked;
-    private static int wrong;
+    private static final int FAR = Frames.FAR;
+    private static final int DEEP = Frames.DEEP;
 
     public static void main(String[] args) {
+        System.exit(run() == 0 ? 0 : 1);
+    }
+
+    static int run() {
         newObject();
         pins();
         places();
@@ -44,74 +41,13 @@ public final class PromiseTest {
         lefts();
         keys();
         mends();
-        System.out.println("PromiseTest: " + asked + " answers, " + wrong + " wrong");
-        System.exit(wrong == 0 ? 0 : 1);
-    }
-
-    // ---- the frames that the tests build
-
-    /** KIND 1: BAR 0 lies between the held PINS 0 and 1, BARS 1 and 2 meet in PIN 2 above. */
-    private static PinFrame triangle() {
-        PinFrame f = new PinFrame();
-        f.pin(0, 0);
-        f.pin(2, 0);
-        f.pin(1, 1);
-        f.bar(0, 1, 1);
-        f.bar(0, 2, 1);
-        f.bar(1, 2, 1);
-        f.hold(0, 0, true);
-        f.hold(0, 1, true);
-        f.hold(1, 1, true);
-        return f;
-    }
-
-    /** KIND 2: a square with both diagonals; PIN 2, its upper right one, is drawn by 6 in x. */
-    private static PinFrame square() {
-        PinFrame f = new PinFrame();
-        f.pin(0, 0);
-        f.pin(2, 0);
-        f.pin(2, 2);
-        f.pin(0, 2);
-        f.bar(0, 1, 1);
-        f.bar(1, 2, 1);
-        f.bar(2, 3, 1);
-        f.bar(3, 0, 1);
-        f.bar(0, 2, 1);
-        f.bar(1, 3, 1);
-        f.hold(0, 0, true);
-        f.hold(0, 1, true);
-        f.hold(1, 1, true);
-        f.load(2, 6, 0);
-        return f;
-    }
-
-    /** KIND 3: the square, PIN 1 held in both directions: BAR 0 is the first SPARE one, BAR 5 the other. */
-    private static PinFrame stiffer() {
-        PinFrame f = square();
-        f.hold(1, 0, true);
-        return f;
-    }
-
-    /** KIND 4: the square, three PINS held. */
-    private static PinFrame stiffest() {
-        PinFrame f = stiffer();
-        f.hold(3, 0, true);
-        f.hold(3, 1, true);
-        return f;
-    }
-
-    /** KIND 0: the square without its diagonals. */
-    private static PinFrame loose() {
-        PinFrame f = square();
-        f.turn(4, false);
-        f.turn(5, false);
-        return f;
+        return end("PromiseTest");
     }
 
     // ---- the promises
 
     private static void newObject() {
-        promise = 1;
+        head("promise 1");
         PinFrame f = new PinFrame();
         due("NONE", PinFrame.NONE, -1);
         for (int what = 0; what <= 10; what++) {
@@ -126,7 +62,7 @@ public final class PromiseTest {
     }
 
     private static void pins() {
-        promise = 2;
+        head("promise 2");
         PinFrame f = new PinFrame();
         due("first", f.pin(3, 2), 0);
         due("the same", f.pin(3, 2), NONE);
@@ -146,8 +82,8 @@ public final class PromiseTest {
     }
 
     private static void places() {
-        promise = 3;
-        PinFrame f = triangle();
+        head("promise 3");
+        PinFrame f = Frames.triangle();
         due("goes", f.place(2, 3, 2), true);
         due("x", f.of(2, 0), 3);
         due("y", f.of(2, 1), 2);
@@ -164,7 +100,7 @@ public final class PromiseTest {
     }
 
     private static void bars() {
-        promise = 4;
+        head("promise 4");
         PinFrame f = new PinFrame();
         for (int i = 0; i < 6; i++) {
             f.pin(i % 4, i / 4);
@@ -194,8 +130,8 @@ public final class PromiseTest {
     }
 
     private static void turns() {
-        promise = 5;
-        PinFrame f = triangle();
+        head("promise 5");
+        PinFrame f = Frames.triangle();
         due("on at first", f.turn(1, true), false);
         due("out", f.turn(1, false), true);
         due("out already", f.turn(1, false), false);
@@ -212,8 +148,8 @@ public final class PromiseTest {
     }
 
     private static void alters() {
-        promise = 6;
-        PinFrame f = triangle();
+        head("promise 6");
+        PinFrame f = Frames.triangle();
         due("give", f.alter(0, false, 3), true);
         due("give as it is", f.alter(0, false, 3), false);
         due("give 0", f.alter(0, false, 0), false);
@@ -234,8 +170,8 @@ public final class PromiseTest {
     }
 
     private static void holds() {
-        promise = 7;
-        PinFrame f = triangle();
+        head("promise 7");
+        PinFrame f = Frames.triangle();
         due("held already", f.hold(0, 1, true), false);
         due("not held", f.hold(1, 0, false), false);
         due("held in x", f.hold(1, 0, true), true);
@@ -250,8 +186,8 @@ public final class PromiseTest {
     }
 
     private static void loads() {
-        promise = 8;
-        PinFrame f = triangle();
+        head("promise 8");
+        PinFrame f = Frames.triangle();
         due("load", f.load(2, 9, -9), true);
         due("the same", f.load(2, 9, -9), true);
         due("above", f.load(2, 10, 0), false);
@@ -267,8 +203,8 @@ public final class PromiseTest {
     }
 
     private static void unloads() {
-        promise = 9;
-        PinFrame f = triangle();
+        head("promise 9");
+        PinFrame f = Frames.triangle();
         due("none", f.unload(), 0);
         f.load(0, 1, 2);
         f.load(2, 0, -4);
@@ -279,8 +215,8 @@ public final class PromiseTest {
     }
 
     private static void decks() {
-        promise = 10;
-        PinFrame f = triangle();
+        head("promise 10");
+        PinFrame f = Frames.triangle();
         due("no such", f.deck(3), NONE);
         due("no such", f.deck(-1), NONE);
         due("first", f.deck(2), 1);
@@ -292,8 +228,8 @@ public final class PromiseTest {
     }
 
     private static void strips() {
-        promise = 11;
-        PinFrame f = triangle();
+        head("promise 11");
+        PinFrame f = Frames.triangle();
         due("none", f.strip(), 0);
         f.deck(1);
         f.deck(2);
@@ -304,8 +240,8 @@ public final class PromiseTest {
     }
 
     private static void trains() {
-        promise = 12;
-        PinFrame f = triangle();
+        head("promise 12");
+        PinFrame f = Frames.triangle();
         due("0", f.train(0), NONE);
         due("one", f.train(9), 1);
         due("four", f.train(1234), 4);
@@ -324,8 +260,8 @@ public final class PromiseTest {
     }
 
     private static void counts() {
-        promise = 13;
-        PinFrame f = square();
+        head("promise 13");
+        PinFrame f = Frames.square();
         due("pins", f.count(0), 4);
         due("bars", f.count(1), 6);
         due("on", f.count(2), 63);
@@ -349,15 +285,15 @@ public final class PromiseTest {
     }
 
     private static void countsOfKinds() {
-        PinFrame f = stiffer();
+        PinFrame f = Frames.stiffer();
         due("two spares", f.count(4) * 100 + f.count(6), 333);
-        f = stiffest();
+        f = Frames.stiffest();
         due("four spares", f.count(4), 4);
         due("base", f.count(5), 2 + 4);
         due("spare", f.count(6), 57);
         f.turn(0, false);
         due("three spares", f.count(4), 4);
-        f = loose();
+        f = Frames.loose();
         due("loose", f.count(4), 0);
         due("could go", f.count(7), 1);
         f.hold(1, 0, true);
@@ -366,8 +302,8 @@ public final class PromiseTest {
     }
 
     private static void ofPins() {
-        promise = 14;
-        PinFrame f = square();
+        head("promise 14");
+        PinFrame f = Frames.square();
         f.load(2, 6, -3);
         due("x", f.of(3, 0), 0);
         due("y", f.of(3, 1), 2);
@@ -386,8 +322,8 @@ public final class PromiseTest {
     }
 
     private static void atBars() {
-        promise = 15;
-        PinFrame f = stiffer();
+        head("promise 15");
+        PinFrame f = Frames.stiffer();
         f.bar(3, 1, 2);
         f.alter(3, true, 7);
         due("one", f.at(3, 0), 3);
@@ -410,33 +346,33 @@ public final class PromiseTest {
     }
 
     private static void pulls() {
-        promise = 16;
-        PinFrame f = triangle();
+        head("promise 16");
+        PinFrame f = Frames.triangle();
         f.load(2, 0, -4);
         fraction("bar 0", u -> f.pull(0, u), 1, 1);
         fraction("bar 1", u -> f.pull(1, u), -2, 1);
         fraction("bar 2", u -> f.pull(2, u), -2, 1);
         none("no such", () -> f.pull(3, false));
         none("no such", () -> f.pull(-1, true));
-        PinFrame g = square();
+        PinFrame g = Frames.square();
         fraction("one spare", u -> g.pull(5, u), -1, 1);
         g.alter(5, false, 3);
         fraction("gives more", u -> g.pull(5, u), -3, 4);
         fraction("others bear it", u -> g.pull(4, u), 9, 4);
-        PinFrame h = stiffer();
+        PinFrame h = Frames.stiffer();
         fraction("held ends", u -> h.pull(0, u), 0, 1);
         fraction("two spares", u -> h.pull(1, u), -9, 5);
         fraction("two spares", u -> h.pull(2, u), 6, 5);
         fraction("two spares", u -> h.pull(5, u), -6, 5);
         h.turn(0, false);
         none("out", () -> h.pull(0, false));
-        none("loose", () -> loose().pull(0, false));
-        none("too many spares", () -> stiffest().pull(1, false));
+        none("loose", () -> Frames.loose().pull(0, false));
+        none("too many spares", () -> Frames.stiffest().pull(1, false));
     }
 
     private static void states() {
-        promise = 17;
-        PinFrame f = stiffer();
+        head("promise 17");
+        PinFrame f = Frames.stiffer();
         fraction("bare", u -> f.state(NONE, 1, u), -3, 1);
         fraction("bare", u -> f.state(NONE, 4, u), 3, 1);
         fraction("bare spare", u -> f.state(NONE, 5, u), 0, 1);
@@ -454,14 +390,14 @@ public final class PromiseTest {
         none("out", () -> f.state(NONE, 0, false));
         none("one spare less", () -> f.state(1, 5, false));
         fraction("the first now", u -> f.state(0, 2, u), -1, 1);
-        none("no spare", () -> triangle().state(0, 0, false));
-        none("loose", () -> loose().state(NONE, 0, false));
-        none("too many", () -> stiffest().state(NONE, 1, false));
+        none("no spare", () -> Frames.triangle().state(0, 0, false));
+        none("loose", () -> Frames.loose().state(NONE, 0, false));
+        none("too many", () -> Frames.stiffest().state(NONE, 1, false));
     }
 
     private static void flexes() {
-        promise = 18;
-        PinFrame f = stiffer();
+        head("promise 18");
+        PinFrame f = Frames.stiffer();
         f.alter(0, false, 2);
         fraction("first", u -> f.flex(0, 0, u), 2, 1);
         fraction("both", u -> f.flex(0, 1, u), 0, 1);
@@ -474,14 +410,14 @@ public final class PromiseTest {
         none("no such", () -> f.flex(2, 0, false));
         none("no such", () -> f.flex(0, 2, false));
         none("no such", () -> f.flex(0, -2, false));
-        none("no spare", () -> triangle().flex(0, 0, false));
-        none("loose", () -> loose().flex(0, NONE, false));
-        none("too many", () -> stiffest().flex(0, 0, false));
+        none("no spare", () -> Frames.triangle().flex(0, 0, false));
+        none("loose", () -> Frames.loose().flex(0, NONE, false));
+        none("too many", () -> Frames.stiffest().flex(0, 0, false));
     }
 
     private static void forces() {
-        promise = 19;
-        PinFrame f = stiffer();
+        head("promise 19");
+        PinFrame f = Frames.stiffer();
         fraction("pin 0 x", u -> f.force(0, 0, u), -18, 5);
         fraction("pin 0 y", u -> f.force(0, 1, u), -6, 1);
         fraction("pin 1 x", u -> f.force(1, 0, u), -12, 5);
@@ -494,14 +430,14 @@ public final class PromiseTest {
         none("direction", () -> f.force(0, -1, false));
         none("no such pin", () -> f.force(4, 0, false));
         none("no such pin", () -> f.force(-1, 0, false));
-        none("held in y alone", () -> triangle().force(1, 0, false));
-        none("loose", () -> loose().force(0, 0, false));
-        none("too many", () -> stiffest().force(0, 0, false));
+        none("held in y alone", () -> Frames.triangle().force(1, 0, false));
+        none("loose", () -> Frames.loose().force(0, 0, false));
+        none("too many", () -> Frames.stiffest().force(0, 0, false));
     }
 
     private static void influences() {
-        promise = 20;
-        PinFrame f = triangle();
+        head("promise 20");
+        PinFrame f = Frames.triangle();
         f.load(2, 5, 5);
         fraction("in y", u -> f.influence(0, 2, 1, u), -1, 4);
         fraction("in x", u -> f.influence(0, 2, 0, u), 1, 4);
@@ -514,17 +450,17 @@ public final class PromiseTest {
         none("direction", () -> f.influence(0, 0, 2, false));
         none("direction", () -> f.influence(0, 0, -1, false));
         due("loads stay", f.of(2, 2), 5);
-        PinFrame g = stiffer();
+        PinFrame g = Frames.stiffer();
         fraction("two spares", u -> g.influence(1, 2, 0, u), -3, 10);
         g.turn(0, false);
         none("out", () -> g.influence(0, 2, 0, false));
-        none("loose", () -> loose().influence(0, 2, 0, false));
-        none("too many", () -> stiffest().influence(1, 2, 0, false));
+        none("loose", () -> Frames.loose().influence(0, 2, 0, false));
+        none("too many", () -> Frames.stiffest().influence(1, 2, 0, false));
     }
 
     private static void cuts() {
-        promise = 21;
-        PinFrame f = square();
+        head("promise 21");
+        PinFrame f = Frames.square();
         f.turn(5, false);
         fraction("diagonal", u -> f.cut(12, 4, u), 3, 1);
         fraction("right one", u -> f.cut(12, 1, u), -3, 1);
@@ -546,7 +482,7 @@ public final class PromiseTest {
     }
 
     private static void cutsThatAreNone() {
-        PinFrame f = square();
+        PinFrame f = Frames.square();
         f.turn(5, false);
         none("empty", () -> f.cut(0, 4, false));
         none("other pins", () -> f.cut(28, 4, false));
@@ -576,8 +512,8 @@ public final class PromiseTest {
     }
 
     private static void joints() {
-        promise = 22;
-        PinFrame f = triangle();
+        head("promise 22");
+        PinFrame f = Frames.triangle();
         due("first", f.joint(0), 2);
         due("then", f.joint(1), 1);
         due("no more", f.joint(2), NONE);
@@ -593,17 +529,17 @@ public final class PromiseTest {
         due("one bar", f.joint(0), 2);
         f.hold(2, 0, true);
         due("not along y", f.joint(0), NONE);
-        PinFrame g = loose();
+        PinFrame g = Frames.loose();
         due("any KIND", g.joint(0), 2);
         due("least first", g.joint(1), 1);
         due("any KIND", g.joint(2), 3);
         due("known", g.count(10), 15);
-        due("three unknown at each", square().joint(0), NONE);
+        due("three unknown at each", Frames.square().joint(0), NONE);
     }
 
     private static void paints() {
-        promise = 23;
-        PinFrame f = stiffer();
+        head("promise 23");
+        PinFrame f = Frames.stiffer();
         due("above", f.painted(1), 28);
         due("below", f.painted(-1), 34);
         due("of 0", f.painted(0), 1);
@@ -616,9 +552,9 @@ public final class PromiseTest {
         due("an OUT one has none", f.painted(0), 0);
         due("sign", f.painted(3), NONE);
         due("sign", f.painted(-2), NONE);
-        due("loose", loose().painted(1), NONE);
-        due("too many", stiffest().painted(0), NONE);
-        PinFrame g = triangle();
+        due("loose", Frames.loose().painted(1), NONE);
+        due("too many", Frames.stiffest().painted(0), NONE);
+        PinFrame g = Frames.triangle();
         g.load(2, 0, -4);
         g.alter(1, true, 2);
         due("just as strong", g.painted(2), 0);
@@ -627,8 +563,8 @@ public final class PromiseTest {
     }
 
     private static void times() {
-        promise = 24;
-        PinFrame f = stiffer();
+        head("promise 24");
+        PinFrame f = Frames.stiffer();
         due("9/5 is 2", f.times(), 49);
         f.alter(1, true, 3);
         due("once", f.times(), 1);
@@ -636,20 +572,20 @@ public final class PromiseTest {
         due("not once", f.times(), 0);
         f.unload();
         due("no pulls", f.times(), 999);
-        PinFrame g = triangle();
+        PinFrame g = Frames.triangle();
         g.load(2, 0, -1);
         g.alter(0, true, 999);
         g.alter(1, true, 999);
         due("the weakest", g.times(), 99);
         g.alter(2, true, 999);
         due("999 of 1", g.times(), 999);
-        due("loose", loose().times(), NONE);
-        due("too many", stiffest().times(), NONE);
+        due("loose", Frames.loose().times(), NONE);
+        due("too many", Frames.stiffest().times(), NONE);
     }
 
     private static void ridings() {
-        promise = 25;
-        PinFrame f = square();
+        head("promise 25");
+        PinFrame f = Frames.square();
         f.turn(5, false);
         f.deck(3);
         none("no train", () -> f.riding(3, 0, false));
@@ -678,8 +614,8 @@ public final class PromiseTest {
     }
 
     private static void worsts() {
-        promise = 26;
-        PinFrame f = square();
+        head("promise 26");
+        PinFrame f = Frames.square();
         f.turn(5, false);
         f.deck(3);
         due("no train", f.worst(3), NONE);
@@ -708,8 +644,8 @@ public final class PromiseTest {
     }
 
     private static void withouts() {
-        promise = 27;
-        PinFrame f = square();
+        head("promise 27");
+        PinFrame f = Frames.square();
         due("one less", f.without(0), 1);
         due("nothing changes", f.count(4), 2);
         f.turn(5, false);
@@ -717,17 +653,17 @@ public final class PromiseTest {
         due("out", f.without(5), NONE);
         due("no such", f.without(6), NONE);
         due("no such", f.without(-1), NONE);
-        due("loose stays loose", loose().without(0), 0);
-        due("kind 3 to 2", stiffer().without(0), 2);
-        due("three spares", stiffest().without(0), 4);
-        PinFrame g = stiffest();
+        due("loose stays loose", Frames.loose().without(0), 0);
+        due("kind 3 to 2", Frames.stiffer().without(0), 2);
+        due("three spares", Frames.stiffest().without(0), 4);
+        PinFrame g = Frames.stiffest();
         g.turn(0, false);
         due("kind 4 to 3", g.without(3), 3);
     }
 
     private static void lefts() {
-        promise = 28;
-        PinFrame f = square();
+        head("promise 28");
+        PinFrame f = Frames.square();
         fraction("the other diagonal", u -> f.left(4, 5, u), -3, 1);
         fraction("the lower one", u -> f.left(4, 0, u), 3, 1);
         fraction("without the spare one", u -> f.left(5, 4, u), 3, 1);
@@ -740,46 +676,46 @@ public final class PromiseTest {
         none("out", () -> f.left(5, 4, false));
         none("out", () -> f.left(4, 5, false));
         none("loose then", () -> f.left(4, 0, false));
-        PinFrame g = stiffest();
+        PinFrame g = Frames.stiffest();
         none("too many then", () -> g.left(0, 1, false));
         g.turn(0, false);
         fraction("KIND 3 then", u -> g.left(3, 2, u), 2, 1);
-        PinFrame h = stiffer();
+        PinFrame h = Frames.stiffer();
         fraction("one spare then", u -> h.left(0, 5, u), -6, 5);
         fraction("one spare then", u -> h.left(5, 4, u), 3, 1);
     }
 
     private static void keys() {
-        promise = 29;
-        due("all", triangle().keys(), 7);
-        due("none", square().keys(), 0);
-        due("loose", loose().keys(), 0);
-        PinFrame f = square();
+        head("promise 29");
+        due("all", Frames.triangle().keys(), 7);
+        due("none", Frames.square().keys(), 0);
+        due("loose", Frames.loose().keys(), 0);
+        PinFrame f = Frames.square();
         f.turn(5, false);
         due("all on", f.keys(), 31);
-        due("a bar between held ones and two diagonals", stiffer().keys(), 0);
-        PinFrame g = square();
+        due("a bar between held ones and two diagonals", Frames.stiffer().keys(), 0);
+        PinFrame g = Frames.square();
         g.pin(3, 0);
         g.bar(4, 1, 1);
         g.bar(4, 2, 1);
         due("those of a pin of two bars", g.keys(), 64 + 128);
         due("KIND 2", g.count(4), 2);
-        due("too many spares", stiffest().keys(), 0);
+        due("too many spares", Frames.stiffest().keys(), 0);
     }
 
     private static void mends() {
-        promise = 30;
-        PinFrame f = loose();
+        head("promise 30");
+        PinFrame f = Frames.loose();
         due("one", f.mend(false), 1);
         due("the least", f.mend(true), 16);
-        due("not loose", square().mend(false), 0);
-        due("not loose", square().mend(true), 0);
+        due("not loose", Frames.square().mend(false), 0);
+        due("not loose", Frames.square().mend(true), 0);
         f.turn(0, false);
         due("two", f.mend(false), 2);
         due("the least two", f.mend(true), 17);
         f.turn(1, false);
         due("three", f.mend(true), 1 + 2 + 16);
-        PinFrame g = stiffer();
+        PinFrame g = Frames.stiffer();
         g.turn(0, false);
         g.turn(4, false);
         g.turn(5, false);
@@ -792,38 +728,5 @@ public final class PromiseTest {
         h.turn(0, false);
         due("by none", h.mend(false), NONE);
         due("by none", h.mend(true), NONE);
-    }
-
-    // ---- how they are told
-
-    private interface Parts {
-        long of(boolean under);
-    }
-
-    private static void due(String call, long got, long want) {
-        asked++;
-        if (got != want) {
-            wrong++;
-            System.out.println("promise " + promise + ", " + call + ": " + got + ", due is " + want);
-        }
-    }
-
-    private static void due(String call, boolean got, boolean want) {
-        due(call, got ? 1 : 0, want ? 1 : 0);
-    }
-
-    private static void fraction(String call, Parts parts, long over, long under) {
-        due(call + " (over)", parts.of(false), over);
-        due(call + " (under)", parts.of(true), under);
-    }
-
-    private static void none(String call, LongSupplier asked) {
-        boolean thrown = false;
-        try {
-            asked.getAsLong();
-        } catch (NoSuchElementException e) {
-            thrown = true;
-        }
-        due(call + " throws", thrown, true);
     }
 }
