@@ -8,14 +8,16 @@ import java.util.TreeSet;
 
 /** The public face is the document's and no more, and calls make no objects. */
 public final class FaceTest {
+    private static final String THROWS = " throws java.util.NoSuchElementException";
     private static final Set<String> FACE = Set.of(
             "pin(int,int):int", "place(int,int,int):boolean", "bar(int,int,int):int", "turn(int,boolean):boolean",
             "alter(int,boolean,int):boolean", "hold(int,int,boolean):boolean", "load(int,int,int):boolean",
-            "unload():int", "deck(int):int", "strip():int", "train(int):int", "count(int):int", "of(int,int):int",
-            "at(int,int):int", "pull(int,boolean):long", "state(int,int,boolean):long", "flex(int,int,boolean):long",
-            "force(int,int,boolean):long", "influence(int,int,int,boolean):long", "cut(int,int,boolean):long",
-            "joint(int):int", "painted(int):int", "times():int", "riding(int,int,boolean):long", "worst(int):int",
-            "without(int):int", "left(int,int,boolean):long", "keys():int", "mend(boolean):int");
+            "unload():int", "deck(int):int", "strip():int", "train(int):int", "count(int):int", "of(int,int):int" + THROWS,
+            "at(int,int):int" + THROWS, "pull(int,boolean):long" + THROWS, "state(int,int,boolean):long" + THROWS,
+            "flex(int,int,boolean):long" + THROWS, "force(int,int,boolean):long" + THROWS,
+            "influence(int,int,int,boolean):long" + THROWS, "cut(int,int,boolean):long" + THROWS,
+            "joint(int):int", "painted(int):int", "times():int", "riding(int,int,boolean):long" + THROWS, "worst(int):int",
+            "without(int):int", "left(int,int,boolean):long" + THROWS, "keys():int", "mend(boolean):int");
 
     private static int wrong;
 
@@ -37,6 +39,8 @@ public final class FaceTest {
             boolean isPrivate = Modifier.isPrivate(method.getModifiers());
             if (!isPrivate) {
                 open.add(signature(method));
+                expect(Modifier.isPublic(method.getModifiers()), "not public: " + method);
+                expect(!Modifier.isStatic(method.getModifiers()), "static: " + method);
             }
             expect(!isPrivate || !names.contains(method.getName()), "a private method is named as " + method.getName());
         }
@@ -49,15 +53,21 @@ public final class FaceTest {
             text.append(text.charAt(text.length() - 1) == '(' ? "" : ",").append(type.getName());
         }
         expect(method.getParameterCount() <= 7, "too many parameters: " + method);
-        return text.append("):").append(method.getReturnType().getName()).toString();
+        text.append("):").append(method.getReturnType().getName());
+        for (Class<?> type : method.getExceptionTypes()) {
+            text.append(" throws ").append(type.getName());
+        }
+        return text.toString();
     }
 
     private static void members() {
         expect(Modifier.isFinal(PinFrame.class.getModifiers()), "the class is final");
+        expect(Modifier.isPublic(PinFrame.class.getModifiers()), "the class is public");
         Constructor<?>[] constructors = PinFrame.class.getDeclaredConstructors();
         expect(constructors.length == 1 && Modifier.isPublic(constructors[0].getModifiers()), "one public constructor");
+        expect(constructors[0].getParameterCount() == 0, "the constructor takes nothing");
         for (Field field : PinFrame.class.getDeclaredFields()) {
-            boolean isNone = field.getName().equals("NONE");
+            boolean isNone = field.toString().equals("public static final int PinFrame.NONE");
             expect(isNone == !Modifier.isPrivate(field.getModifiers()), "open field " + field);
             expect(!Modifier.isStatic(field.getModifiers()) || Modifier.isFinal(field.getModifiers()), "state " + field);
         }
@@ -72,14 +82,14 @@ public final class FaceTest {
     private static void room() {
         var threads = (com.sun.management.ThreadMXBean) ManagementFactory.getThreadMXBean();
         long self = Thread.currentThread().getId();
+        askAll(dearFrame());
         PinFrame frame = dearFrame();
-        askAll(frame);
         long before = threads.getThreadAllocatedBytes(self);
-        for (int i = 0; i < 100; i++) {
+        for (int i = 0; i < 20; i++) {
             askAll(frame);
         }
         long made = threads.getThreadAllocatedBytes(self) - before;
-        expect(made < 10_000, "2000 calls made " + made + " bytes");
+        expect(made < 10_000, "400 calls made " + made + " bytes");
         before = threads.getThreadAllocatedBytes(self);
         dearFrame();
         made = threads.getThreadAllocatedBytes(self) - before;

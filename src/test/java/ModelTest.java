@@ -7,7 +7,8 @@ import java.util.stream.IntStream;
 /** Long made-up runs of calls, each answered by PinFrame and by PlainFrame: the answers must be the same. */
 public final class ModelTest {
     private static final int RUNS = 3000;
-    private static final int CALLS = 512;
+    /** A turn makes up to five calls, and none may be the 513th. */
+    private static final int CALLS = 508;
 
     /** Always the same numbers: a run that fails can be looked at again. */
     private static final class Numbers {
@@ -32,7 +33,6 @@ public final class ModelTest {
             return below(2) == 0;
         }
     }
-
 
     private final PinFrame frame = new PinFrame();
     private final PlainFrame plain = new PlainFrame();
@@ -238,8 +238,11 @@ public final class ModelTest {
             case 1 -> compare("mend " + bits, f -> f.mend(bits), p -> p.mend(bits));
             default -> {
                 int k = numbers.below(20) == 0 ? Integer.MAX_VALUE : Integer.MIN_VALUE;
-                compare("far " + k, f -> f.joint(k) + f.count(k) + f.painted(k) + f.worst(k) + f.without(k),
-                        p -> p.joint(k) + p.count(k) + p.painted(k) + p.worst(k) + p.without(k));
+                compare("joint " + k, f -> f.joint(k), p -> p.joint(k));
+                compare("count " + k, f -> f.count(k), p -> p.count(k));
+                compare("painted " + k, f -> f.painted(k), p -> p.painted(k));
+                compare("worst " + k, f -> f.worst(k), p -> p.worst(k));
+                compare("without " + k, f -> f.without(k), p -> p.without(k));
             }
         }
     }
